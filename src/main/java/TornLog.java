@@ -1,4 +1,3 @@
-import java.util.Arrays;
 import java.util.NoSuchElementException;
 
 /**
@@ -239,6 +238,12 @@ public final class TornLog {
         private int parts;
         private int bytes;
 
+        Cut() {
+            waits = false;
+            parts = 0;
+            bytes = 0;
+        }
+
         void set(int n, int b) {
             waits = true;
             parts = n;
@@ -265,7 +270,6 @@ public final class TornLog {
         /** Beside the cells, because an erasing counts also if none of its bytes was done. */
         private int erasings;
         private int overwritten;
-        private boolean inLog;
         private int records;
         private int recordsEnd;
 
@@ -274,7 +278,6 @@ public final class TornLog {
             cells = new byte[0];
             erasings = 0;
             overwritten = 0;
-            inLog = false;
             records = 0;
             recordsEnd = BEGINNING_BYTES;
         }
@@ -286,7 +289,9 @@ public final class TornLog {
             }
             erasings++;
             int done = cut.bytesDone(BLOCK_BYTES);
-            Arrays.fill(cells, 0, done, (byte) ERASED);
+            for (int i = 0; i < done; i++) {
+                cells[i] = (byte) ERASED;
+            }
             return done == BLOCK_BYTES;
         }
 
@@ -415,6 +420,7 @@ public final class TornLog {
             if (number < 0 || !chip[number].erase(cut) || !writeBeginning(chip[number])) {
                 return false;
             }
+            chip[number].findRecords();
             enter(number);
             open = true;
             return true;
@@ -423,11 +429,20 @@ public final class TornLog {
         private int leastErased() {
             int least = -1;
             for (int i = 0; i < BLOCKS; i++) {
-                if (!chip[i].inLog && (least < 0 || chip[i].erasings < chip[least].erasings)) {
+                if (!holds(i) && (least < 0 || chip[i].erasings < chip[least].erasings)) {
                     least = i;
                 }
             }
             return least;
+        }
+
+        private boolean holds(int number) {
+            for (int i = 0; i < length; i++) {
+                if (row[i] == number) {
+                    return true;
+                }
+            }
+            return false;
         }
 
         private boolean writeBeginning(Block block) {
@@ -464,7 +479,6 @@ public final class TornLog {
 
         /** Block i is none of the log any more; its cells stay as they are. */
         void drop(int i) {
-            block(i).inLog = false;
             length--;
             for (int at = i; at < length; at++) {
                 row[at] = row[at + 1];
@@ -478,8 +492,8 @@ public final class TornLog {
             length = 0;
             open = false;
             for (int i = 0; i < BLOCKS; i++) {
-                chip[i].inLog = false;
                 if (chip[i].isBegun()) {
+                    chip[i].findRecords();
                     enter(i);
                 }
             }
@@ -487,10 +501,7 @@ public final class TornLog {
 
         /** A begun block comes into the row, behind all that were begun before it. */
         private void enter(int number) {
-            Block block = chip[number];
-            block.inLog = true;
-            block.findRecords();
-            int order = block.number(ORDER_AT, 4);
+            int order = chip[number].number(ORDER_AT, 4);
             int at = length;
             while (at > 0 && block(at - 1).number(ORDER_AT, 4) > order) {
                 row[at] = row[at - 1];
@@ -500,7 +511,7 @@ public final class TornLog {
             length++;
         }
 
-        /** The address of record i: the number of its block in the log times BLOCK_BYTES, and its place there; or -1. */
+        /** Where record i is: the number of its block in the log times BLOCK_BYTES, and its place there; or -1. */
         int find(int i) {
             if (i < 0) {
                 return -1;

@@ -148,7 +148,6 @@ public final class PromisesTest {
         CHECK.illegal("5: kind 16", () -> x.append(16, 0, 0));
         CHECK.illegal("5: moment -1", () -> x.append(1, -1, 0));
         CHECK.illegal("5: k -1", () -> x.append(1, 0, -1));
-        CHECK.illegal("5: k 46", () -> x.append(1, 0, 46));
         CHECK.illegal("5: k beyond the tape", () -> x.append(1, 0, 11));
         CHECK.due("5: the tape is as before", () -> x.count(3), 10);
         CHECK.due("5: nothing was appended", () -> x.count(1), 0);
@@ -159,6 +158,7 @@ public final class PromisesTest {
         CHECK.illegal("5: a value of 1001", () -> x.append(1, 0, 0));
         CHECK.due("5: a value of 1000", () -> x.append(1, 0, 1), 3);
         fillTape(x, 6, 1046);
+        CHECK.illegal("5: k 46", () -> x.append(1, 0, 46));
         CHECK.illegal("5: a value of 1001 behind the longest key", () -> x.append(1, 0, 45));
         x.end(1045);
         CHECK.due("5: the longest record, in a new block", () -> x.append(1, 0, 45), 1);
@@ -175,6 +175,7 @@ public final class PromisesTest {
         CHECK.due("5: 227 * 9 is more than 2040", () -> x.append(1, 0, 0), 1);
         CHECK.due("5: the last of the first block", () -> x.record(225, 4), 0);
         CHECK.due("5: the first of the second", () -> x.record(226, 4), 1);
+        CHECK.due("5: all empty records are found again", x::mount, 227);
         TornLog y = new TornLog();
         CHECK.due("5: half a block", () -> putHalf(y, 1), 1);
         CHECK.due("5: the other half fits to the byte", () -> putHalf(y, 2), 2);
