@@ -20,20 +20,8 @@ final class Check {
         same(what, outcome(call), Long.toString(want));
     }
 
-    void illegal(String what, Call call) {
-        same(what, outcome(call), "IllegalArgumentException");
-    }
-
     void refusedAsDown(String what, Call call) {
         same(what, outcome(call), "IllegalStateException");
-    }
-
-    void outOfBounds(String what, Call call) {
-        same(what, outcome(call), "IndexOutOfBoundsException");
-    }
-
-    void missing(String what, Call call) {
-        same(what, outcome(call), "NoSuchElementException");
     }
 
     void same(String what, String got, String want) {
@@ -48,9 +36,13 @@ final class Check {
         return wrong != 0;
     }
 
+    String sum() {
+        return checks + " checks, " + wrong + " wrong";
+    }
+
     void finish() {
-        System.out.println(checks + " checks, " + wrong + " wrong");
-        if (wrong != 0) {
+        System.out.println(sum());
+        if (failed()) {
             System.exit(1);
         }
     }

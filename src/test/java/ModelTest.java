@@ -60,7 +60,7 @@ public final class ModelTest {
             callWord(random.nextInt(60) - 1, random.nextInt(longest + 10) - 1);
         } else if (dice < 85) {
             callCount(random.nextInt(5));
-        } else if (dice < 90 || log.count(2) == 1) {
+        } else if (dice < 90 || model.count(2) == 1) {
             callMount();
         } else {
             strange(random.nextInt(9));
@@ -79,7 +79,7 @@ public final class ModelTest {
             left -= n;
         }
         if (random.nextInt(4) > 0) {
-            callEnd(Math.min(bytes, log.count(3)));
+            callEnd(Math.min(bytes, (int) model.count(3)));
         }
         int least = Math.max(0, bytes - 1000);
         int k = Math.min(bytes, Math.max(least, random.nextInt(46)));
