@@ -26,8 +26,12 @@ public final class Promise02FeedTest {
         SECTION.sentence("it would have more than 1060: IndexOutOfBoundsException");
         SECTION.answers("1039 and 20", () -> feedBehind(1039), 1059);
         SECTION.answers("1040 and 20", () -> feedBehind(1040), 1060);
-        SECTION.refuses("1041 and 20", () -> States.withTape(1041), Promise02FeedTest::feedOnce, Section.OUT_OF_BOUNDS);
-        SECTION.refuses("1060 and 20", () -> States.withTape(1060), Promise02FeedTest::feedOnce, Section.OUT_OF_BOUNDS);
+        for (int length : new int[] {1041, 1060}) {
+            SECTION.refuses(length + " and 20 (busy)", () -> States.busy(length), Promise02FeedTest::feedOnce,
+                    Section.OUT_OF_BOUNDS);
+            SECTION.refuses(length + " and 20 (quiet)", () -> States.quiet(length), Promise02FeedTest::feedOnce,
+                    Section.OUT_OF_BOUNDS);
+        }
         Subject x = States.withTape(1060);
         Check.outcome(() -> feedOnce(x));
         SECTION.answers("the tape is as before", () -> x.count(3), 1060);

@@ -49,8 +49,10 @@ public final class Promise03FillTest {
         }
         int[][] tooLong = {{61, 1000}, {1060, 1}, {1000, 61}, {1060, 1000}};
         for (int[] pair : tooLong) {
-            SECTION.refuses(pair[0] + " and " + pair[1], () -> States.withTape(pair[0]), x -> x.fill(7, pair[1]),
-                    Section.OUT_OF_BOUNDS);
+            SECTION.refuses(pair[0] + " and " + pair[1] + " (busy)", () -> States.busy(pair[0]),
+                    x -> x.fill(7, pair[1]), Section.OUT_OF_BOUNDS);
+            SECTION.refuses(pair[0] + " and " + pair[1] + " (quiet)", () -> States.quiet(pair[0]),
+                    x -> x.fill(7, pair[1]), Section.OUT_OF_BOUNDS);
         }
         Subject x = States.withTape(1060);
         Check.outcome(() -> x.fill(7, 1));

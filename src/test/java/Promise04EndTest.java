@@ -35,8 +35,8 @@ public final class Promise04EndTest {
         }
         for (int length : new int[] {0, 1, 20, 57, 1059, 1060}) {
             String of = " of " + length;
-            SECTION.refuses("n -1" + of, () -> States.withTape(length), x -> x.end(-1), Section.ILLEGAL_ARGUMENT);
-            SECTION.refuses("n " + (length + 1) + of, () -> States.withTape(length), x -> x.end(length + 1),
+            SECTION.refuses("n -1" + of, () -> States.busy(length), x -> x.end(-1), Section.ILLEGAL_ARGUMENT);
+            SECTION.refuses("n " + (length + 1) + of, () -> States.busy(length), x -> x.end(length + 1),
                     Section.ILLEGAL_ARGUMENT);
             SECTION.answers("n 0" + of, () -> States.withTape(length).end(0), 0);
             SECTION.answers("n " + length + of, () -> States.withTape(length).end(length), length);

@@ -47,7 +47,7 @@ public final class Promise05AppendTest {
         SECTION.sentence("k 0 .. 45");
         for (int k : new int[] {Section.LEAST, -1, 46, Section.MOST}) {
             SECTION.refusesInAll("k " + k, States.all(), x -> x.append(1, 0, k), Section.ILLEGAL_ARGUMENT);
-            SECTION.refuses("k " + k + " with 500 bytes", () -> States.withTape(500), x -> x.append(1, 0, k),
+            SECTION.refuses("k " + k + " with 500 bytes", () -> States.busy(500), x -> x.append(1, 0, k),
                     Section.ILLEGAL_ARGUMENT);
         }
         for (int k : new int[] {0, 1, 44, 45}) {
@@ -78,7 +78,7 @@ public final class Promise05AppendTest {
     private static void tapeTooShort() {
         SECTION.sentence("it has k bytes at least .. else IllegalArgumentException");
         for (int k : new int[] {1, 2, 44, 45}) {
-            SECTION.refuses(k - 1 + " bytes, k " + k, () -> States.withTape(k - 1), x -> x.append(1, 0, k),
+            SECTION.refuses(k - 1 + " bytes, k " + k, () -> States.busy(k - 1), x -> x.append(1, 0, k),
                     Section.ILLEGAL_ARGUMENT);
             SECTION.refuses("no bytes, k " + k, Subject::new, x -> x.append(1, 0, k), Section.ILLEGAL_ARGUMENT);
             SECTION.answers(k + " bytes, k " + k, () -> States.withTape(k).append(1, 0, k), 1);
@@ -93,9 +93,9 @@ public final class Promise05AppendTest {
             int most = k + 1000;
             SECTION.answers(most - 1 + " bytes, k " + k, () -> States.withTape(most - 1).append(1, 0, k), 1);
             SECTION.answers(most + " bytes, k " + k, () -> States.withTape(most).append(1, 0, k), 1);
-            SECTION.refuses(most + 1 + " bytes, k " + k, () -> States.withTape(most + 1), x -> x.append(1, 0, k),
+            SECTION.refuses(most + 1 + " bytes, k " + k, () -> States.busy(most + 1), x -> x.append(1, 0, k),
                     Section.ILLEGAL_ARGUMENT);
-            SECTION.refuses("1060 bytes, k " + k, () -> States.withTape(1060), x -> x.append(1, 0, k),
+            SECTION.refuses("1060 bytes, k " + k, () -> States.busy(1060), x -> x.append(1, 0, k),
                     Section.ILLEGAL_ARGUMENT);
         }
     }
@@ -108,15 +108,16 @@ public final class Promise05AppendTest {
                 Section.OUT_OF_BOUNDS, x -> x.end(0));
         SECTION.refusesBut("with a tape, and a CUT that waits on", States::closed, x -> x.append(1, 0, 0),
                 Section.OUT_OF_BOUNDS, x -> x.end(0));
-        SECTION.answers("it needs none: the last has room to the byte", () -> States.full().put(9, Subject.HALF), 2);
-        SECTION.refusesBut("it needs one: a byte too much", States::full, x -> x.put(9, Subject.HALF + 1),
+        SECTION.answers("it needs none: the last has room to the byte", () -> States.almostFull().put(9, Subject.HALF),
+                2);
+        SECTION.refusesBut("it needs one: a byte too much", States::almostFull, x -> x.put(9, Subject.HALF + 1),
                 Section.OUT_OF_BOUNDS, x -> x.end(0));
-        Subject x = States.full();
+        Subject x = States.almostFull();
         x.lay(9, Subject.HALF + 1);
         Check.outcome(() -> x.append(1, 9, 12));
         SECTION.answers("the tape is empty", () -> x.count(3), 0);
         SECTION.answers("it is not down", () -> x.count(2), 0);
-        SECTION.answers("nothing came", () -> x.count(0), 47);
+        SECTION.answers("nothing came", () -> x.count(0), 24);
         SECTION.answers("the last block is open still", () -> x.put(9, Subject.HALF), 2);
         SECTION.throwsOf("and full then, for the least record", () -> x.append(1, 0, 0), Section.OUT_OF_BOUNDS);
         SECTION.answers("with one retired there are fewer than 24", () -> x.retire(0), 23);

@@ -121,14 +121,14 @@ public final class Promise08MountTest {
     private static void roundTheChip() {
         SECTION.sentence("in the order in which they were begun (several times round the chip)");
         Subject kept = new Subject();
-        for (int i = 0; i < 127; i++) {
+        for (int i = 0; i < 139; i++) {
             if (i >= 24) {
                 kept.retire(0);
             }
             kept.append(1, i, 0);
             kept.mount();
         }
-        SECTION.same("127 blocks begun, the first retired each time", kept.moments(), lastBefore(127));
+        SECTION.same("139 blocks begun, the first retired each time", kept.moments(), lastBefore(139));
         SECTION.answers("all was erased before", () -> kept.count(4), 0);
         Subject retired = new Subject();
         for (int i = 0; i < 232; i++) {

@@ -64,7 +64,9 @@ public final class Promise10WordTest {
         SECTION.answers("j 29 of 30", () -> States.busy().word(22, 29), 61L << 56);
         SECTION.answers("j 0 of 30", () -> States.busy().word(22, 0) >>> 56, 61);
         for (int j : new int[] {-1, 0, 1}) {
-            SECTION.refuses("j " + j + " of no bytes", States::busy, x -> x.word(0, j), Section.OUT_OF_BOUNDS);
+            SECTION.refuses("j " + j + " of no bytes (busy)", States::busy, x -> x.word(0, j), Section.OUT_OF_BOUNDS);
+            SECTION.refuses("j " + j + " of no bytes (quiet)", () -> States.quiet(9), x -> x.word(0, j),
+                    Section.OUT_OF_BOUNDS);
         }
         for (int length : new int[] {1, 45, 1000, 1045}) {
             Subject x = States.withTape(length);

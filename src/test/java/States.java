@@ -32,9 +32,9 @@ final class States {
 
     /**
      * Something of all that a state can have: 22 blocks, the last one open with two records, a retired block and one
-     * whose erasing was cut, 57 bytes on the tape, a CUT that waits.
+     * whose erasing was cut, bytes on the tape, a CUT that waits.
      */
-    static Subject busy() {
+    static Subject busy(int tape) {
         Subject x = begun(24);
         x.retire(4);
         x.retire(1);
@@ -45,8 +45,19 @@ final class States {
         x.retire(2);
         x.put(60, 700);
         x.put(61, 30);
-        x.layMany(57);
+        x.layMany(tape);
         x.cut(6, 3);
+        return x;
+    }
+
+    static Subject busy() {
+        return busy(57);
+    }
+
+    /** Little of all that: three blocks, none open, no CUT that waits, but bytes on the tape. */
+    static Subject quiet(int tape) {
+        Subject x = begun(3);
+        x.layMany(tape);
         return x;
     }
 
@@ -59,11 +70,18 @@ final class States {
         return x;
     }
 
+    /** All 24 blocks are the log; the last is open and has one record, of half of its bytes. */
+    static Subject almostFull() {
+        Subject x = begun(23);
+        x.put(23, Subject.HALF);
+        return x;
+    }
+
     /** All 24 blocks are the log, none is open; something is on the tape and a CUT waits. */
     static Subject closed() {
         Subject x = begun(24);
         x.layMany(57);
-        x.cut(2, 3);
+        x.cut(3, 3);
         return x;
     }
 
@@ -95,6 +113,7 @@ final class States {
     static Map<String, Supplier<Subject>> up() {
         Map<String, Supplier<Subject>> up = new LinkedHashMap<>();
         up.put("new", Subject::new);
+        up.put("open", () -> open(3));
         up.put("busy", States::busy);
         up.put("closed", States::closed);
         return up;

@@ -38,9 +38,9 @@ public final class TermsTest {
     private static void longestTape() {
         SECTION.sentence("THE TAPE has at most 1060 bytes");
         SECTION.answers("fill up to 1060", () -> States.withTape(1059).fill(1, 1), 1060);
-        SECTION.refuses("fill beyond", () -> States.withTape(1060), x -> x.fill(1, 1), Section.OUT_OF_BOUNDS);
+        SECTION.refuses("fill beyond", () -> States.busy(1060), x -> x.fill(1, 1), Section.OUT_OF_BOUNDS);
         SECTION.answers("feed up to 1060", () -> States.withTape(1040).feed(1, 2, 3, 4, 5), 1060);
-        SECTION.refuses("feed beyond", () -> States.withTape(1041), x -> x.feed(1, 2, 3, 4, 5), Section.OUT_OF_BOUNDS);
+        SECTION.refuses("feed beyond", () -> States.busy(1041), x -> x.feed(1, 2, 3, 4, 5), Section.OUT_OF_BOUNDS);
         Subject x = States.withTape(1060);
         x.end(1045);
         x.put(1);

@@ -68,17 +68,17 @@ public final class TermsThrownTest {
 
     /** The power failed in the record that would have filled the last of 24 blocks. */
     private static Subject fullAndDown() {
-        Subject x = States.full();
+        Subject x = States.almostFull();
         x.cut(0, 0);
-        Check.outcome(() -> x.put(47, Subject.HALF));
+        Check.outcome(() -> x.put(24, Subject.HALF));
         return x;
     }
 
     private static void asTheCallSays() {
         SECTION.sentence("IllegalArgumentException: a number out of range ..; then as the call says");
-        SECTION.refuses("fill: out of range, and the tape is full", () -> States.withTape(1060), x -> x.fill(256, 1),
+        SECTION.refuses("fill: out of range, and the tape is full", () -> States.busy(1060), x -> x.fill(256, 1),
                 Section.ILLEGAL_ARGUMENT);
-        SECTION.refuses("fill: in range, and the tape is full", () -> States.withTape(1060), x -> x.fill(255, 1),
+        SECTION.refuses("fill: in range, and the tape is full", () -> States.busy(1060), x -> x.fill(255, 1),
                 Section.OUT_OF_BOUNDS);
         SECTION.refuses("append: out of range, and no block is left", States::closed, x -> x.append(16, 0, 0),
                 Section.ILLEGAL_ARGUMENT);
@@ -100,7 +100,7 @@ public final class TermsThrownTest {
     private static void changesNothing() {
         SECTION.sentence("A call that throws changes nothing, but as said.");
         Map<String, Supplier<Subject>> states = States.up();
-        states.put("full", States::full);
+        states.put("almost full", States::almostFull);
         states.forEach((name, state) -> {
             Subject refused = state.get();
             for (int i = 0; i < 3; i++) {
