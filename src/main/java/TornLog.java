@@ -21,7 +21,8 @@ public final class TornLog {
     /** A beginning: MARK, when the block was begun (4 bytes), MARK. */
     private static final int BEGINNING_BYTES = 6;
     private static final int ORDER_AT = 1;
-    private static final int RECORDS_END = BEGINNING_BYTES + 2040;
+    private static final int ROOM_BYTES = 2040;
+    private static final int RECORDS_END = BEGINNING_BYTES + ROOM_BYTES;
 
     /** A record: kind (1), moment (4), length of key (1), of value (2), key, value, MARK. */
     private static final int RECORD_EXTRA = 9;
@@ -29,7 +30,7 @@ public final class TornLog {
     private static final int KEY_LENGTH_AT = 5;
     private static final int VALUE_LENGTH_AT = 6;
     private static final int CONTENT_AT = 8;
-    private static final int MOST_RECORDS = 2040 / RECORD_EXTRA;
+    private static final int MOST_RECORDS = ROOM_BYTES / RECORD_EXTRA;
 
     private static final int ERASED = 255;
     /** Any byte but ERASED: the first that an erasing takes away, the last that a writing brings. */
@@ -77,7 +78,7 @@ public final class TornLog {
     public int append(int kind, int moment, int k)
             throws IllegalArgumentException, IllegalStateException, IndexOutOfBoundsException {
         refuseOutside(kind, 1, MOST_KIND);
-        refuseOutside(moment, 0, Integer.MAX_VALUE);
+        refuseNegative(moment);
         refuseOutside(k, 0, MOST_KEY);
         refuseOutside(tape.length, k, k + MOST_VALUE);
         refuseWhenDown();
@@ -106,8 +107,8 @@ public final class TornLog {
     }
 
     public int cut(int n, int b) throws IllegalArgumentException {
-        refuseOutside(n, 0, Integer.MAX_VALUE);
-        refuseOutside(b, 0, Integer.MAX_VALUE);
+        refuseNegative(n);
+        refuseNegative(b);
         boolean waited = log.cut.waits;
         log.cut.set(n, b);
         return waited ? 1 : 0;
@@ -174,6 +175,12 @@ public final class TornLog {
     private static void refuseOutside(int number, int least, int most) {
         if (number < least || number > most) {
             throw new IllegalArgumentException("out of range");
+        }
+    }
+
+    private static void refuseNegative(int number) {
+        if (number < 0) {
+            throw new IllegalArgumentException("negative");
         }
     }
 
